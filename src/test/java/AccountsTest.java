@@ -66,32 +66,33 @@ final class AccountsTest {
     }
 
     static void promise41UndoesEveryChange() {
-        SkipArchive x = Check.sample();
-        x.save();
-        x.restore();
         String[] states = new String[9];
-        states[0] = Check.state(x);
-        x.file(5, 5);
-        states[1] = Check.state(x);
-        x.fileTall(45, 4, 4);
-        states[2] = Check.state(x);
-        x.drop(10);
-        states[3] = Check.state(x);
-        x.raise(60);
-        states[4] = Check.state(x);
-        x.lower(50);
-        states[5] = Check.state(x);
-        x.weigh(40, 98);
-        states[6] = Check.state(x);
-        x.forget(2);
-        states[7] = Check.state(x);
-        Check.commands(x, "r2;t;-20");
+        changedEightTimes(states);
+        SkipArchive x = changedEightTimes(new String[0]);
         for (int left = 7; left >= 0; left--) {
             Check.same(left, x.undo());
             Check.same(states[left], Check.state(x));
         }
         Check.fails(STATE, x::undo);
         Check.same(states[0], Check.state(x));
+    }
+
+    /** Fills in what there was at first and behind each of the changes, as far as there is room for it. */
+    private static SkipArchive changedEightTimes(String[] states) {
+        SkipArchive x = Check.sample();
+        x.save();
+        x.restore();
+        Runnable[] changes = {() -> x.file(5, 5), () -> x.fileTall(45, 4, 4), () -> x.drop(10), () -> x.raise(60),
+            () -> x.lower(50), () -> x.weigh(40, 98), () -> x.forget(2), () -> Check.commands(x, "r2;t;-20")};
+        for (int i = 0; i <= changes.length; i++) {
+            if (i < states.length) {
+                states[i] = Check.state(x);
+            }
+            if (i < changes.length) {
+                changes[i].run();
+            }
+        }
+        return x;
     }
 
     static void promise41UndoesTossAndRecall() {

@@ -6,8 +6,9 @@ import java.util.Comparator;
 
 /** Runs every test of the project: each static method without arguments of the test classes. */
 public final class AllTests {
-    private static final Class<?>[] CLASSES = {ChangesTest.class, SearchTest.class, TextTest.class, AccountsTest.class,
-        ModelTest.class, FaceTest.class};
+    static final Class<?>[] CLASSES = {ChangesTest.class, SearchTest.class, TextTest.class, AccountsTest.class,
+        TermsEdges.class, ChangesEdges.class, SearchEdges.class, TextEdges.class, AccountsEdges.class,
+        DocumentTest.class, ModelTest.class, FaceTest.class};
 
     private AllTests() {
     }

@@ -76,10 +76,10 @@ final class ChangesTest {
     }
 
     static void promise02RefusedWhenFull() {
+        Check.refused(Check.full(), 2, 24, x -> x.file(5, 5));
+        Check.refused(Check.full(), 4, 23, x -> x.file(230, 5));
+        Check.refused(Check.full(), 1, 0, x -> x.file(5, 100));
         SkipArchive x = Check.full();
-        Check.refused(x, 2, 24, () -> x.file(5, 5));
-        Check.refused(x, 4, 23, () -> x.file(230, 5));
-        Check.refused(x, 1, 0, () -> x.file(5, 100));
         x.drop(0);
         Check.same(1, x.file(5, 5));
         Check.same(24, x.account(0));
@@ -95,21 +95,19 @@ final class ChangesTest {
     }
 
     static void promise03Refused() {
-        SkipArchive x = Check.sample();
-        Check.refused(x, 1, 0, () -> x.fileTall(-1, 5, 1));
-        Check.refused(x, 4, 5, () -> x.fileTall(60, 5, 5));
-        Check.refused(x, 1, 0, () -> x.fileTall(1000, 5, 1));
-        Check.refused(x, 1, 0, () -> x.fileTall(60, -1, 1));
-        Check.refused(x, 1, 0, () -> x.fileTall(60, 100, 1));
-        Check.refused(x, 1, 0, () -> x.fileTall(60, 5, 0));
-        Check.refused(x, 1, 0, () -> x.fileTall(5, 5, 6));
+        Check.refused(Check.sample(), 1, 0, x -> x.fileTall(-1, 5, 1));
+        Check.refused(Check.sample(), 4, 5, x -> x.fileTall(60, 5, 5));
+        Check.refused(Check.sample(), 1, 0, x -> x.fileTall(1000, 5, 1));
+        Check.refused(Check.sample(), 1, 0, x -> x.fileTall(60, -1, 1));
+        Check.refused(Check.sample(), 1, 0, x -> x.fileTall(60, 100, 1));
+        Check.refused(Check.sample(), 1, 0, x -> x.fileTall(60, 5, 0));
+        Check.refused(Check.sample(), 1, 0, x -> x.fileTall(5, 5, 6));
     }
 
     static void promise03RefusedWhenFull() {
-        SkipArchive x = Check.full();
-        Check.refused(x, 2, 24, () -> x.fileTall(999, 5, 1));
-        Check.refused(x, 4, 1, () -> x.fileTall(10, 5, 1));
-        Check.refused(x, 1, 0, () -> x.fileTall(5, 5, Integer.MIN_VALUE));
+        Check.refused(Check.full(), 2, 24, x -> x.fileTall(999, 5, 1));
+        Check.refused(Check.full(), 4, 1, x -> x.fileTall(10, 5, 1));
+        Check.refused(Check.full(), 1, 0, x -> x.fileTall(5, 5, Integer.MIN_VALUE));
     }
 
     static void promise04Drops() {
@@ -233,15 +231,14 @@ final class ChangesTest {
     }
 
     static void promise09Refused() {
-        SkipArchive x = Check.sample();
-        Check.refused(x, 7, 9, () -> x.weigh(30, 9));
-        Check.refused(x, 1, 0, () -> x.weigh(30, 100));
-        Check.refused(x, 3, 31, () -> x.weigh(31, 9));
-        Check.refused(x, 1, 0, () -> x.weigh(31, -1));
-        Check.refused(x, 7, 0, () -> x.weigh(40, 0));
-        Check.refused(x, 1, 0, () -> x.weigh(-1, 9));
-        Check.refused(x, 7, 99, () -> x.weigh(50, 99));
-        Check.refused(x, 1, 0, () -> x.weigh(1000, 9));
+        Check.refused(Check.sample(), 7, 9, x -> x.weigh(30, 9));
+        Check.refused(Check.sample(), 1, 0, x -> x.weigh(30, 100));
+        Check.refused(Check.sample(), 3, 31, x -> x.weigh(31, 9));
+        Check.refused(Check.sample(), 1, 0, x -> x.weigh(31, -1));
+        Check.refused(Check.sample(), 7, 0, x -> x.weigh(40, 0));
+        Check.refused(Check.sample(), 1, 0, x -> x.weigh(-1, 9));
+        Check.refused(Check.sample(), 7, 99, x -> x.weigh(50, 99));
+        Check.refused(Check.sample(), 1, 0, x -> x.weigh(1000, 9));
     }
 
     static void promise10Tosses() {

@@ -7,6 +7,14 @@ final class Check {
         Object make();
     }
 
+    interface Asked {
+        Object make(SkipArchive x);
+    }
+
+    interface Numbered {
+        Object make(int number);
+    }
+
     private static final List<String> FAULTS = new ArrayList<>();
 
     private Check() {
@@ -41,7 +49,22 @@ final class Check {
         }
     }
 
-    private static Object outcome(Call call) {
+    /**
+     * Just beyond both ends of a range, and as far as can be, the call throws that exception; at the ends, and
+     * halfway between them, it does not.
+     */
+    static void failsBeyond(int least, int most, Class<?> due, Numbered call) {
+        for (int number : new int[] {least - 1, most + 1, least - 1000, Integer.MIN_VALUE, Integer.MAX_VALUE}) {
+            fails(due, () -> call.make(number));
+        }
+        for (int number : new int[] {least, most, (least + most) / 2}) {
+            if (due.getName().equals(outcome(() -> call.make(number)))) {
+                fault(number + " answered " + due.getName());
+            }
+        }
+    }
+
+    static Object outcome(Call call) {
         try {
             return call.make();
         } catch (RuntimeException e) {
@@ -55,6 +78,11 @@ final class Check {
         fails(UnsupportedOperationException.class, call);
         same(before, state(x));
         reason(x, reason, detail, 0);
+    }
+
+    /** The same for an archive of its own, as each has no more than 512 calls. */
+    static void refused(SkipArchive x, int reason, int detail, Asked call) {
+        refused(x, reason, detail, () -> call.make(x));
     }
 
     static void reason(SkipArchive x, int reason, int detail, int command) {
@@ -78,6 +106,25 @@ final class Check {
         return text.toString();
     }
 
+    /** All that can be asked without a change, but for the characters in the text buffer. */
+    static String everything(SkipArchive x) {
+        StringBuilder text = new StringBuilder(state(x));
+        text.append(" fault ").append(x.faultPosition()).append(" reason");
+        for (int what = 0; what < 3; what++) {
+            int number = what;
+            text.append(' ').append(outcome(() -> x.reason(number)));
+        }
+        text.append(" line ");
+        for (int index = 0; hasCharacter(x, index); index++) {
+            text.append(x.character(index));
+        }
+        return text.toString();
+    }
+
+    private static boolean hasCharacter(SkipArchive x, int index) {
+        return outcome(() -> x.character(index)) instanceof Character;
+    }
+
     static void appendAll(SkipArchive x, String text) {
         for (int i = 0; i < text.length(); i++) {
             x.append(text.charAt(i));
@@ -96,6 +143,42 @@ final class Check {
         }
         fails(IndexOutOfBoundsException.class, () -> x.character(length));
         return text.toString();
+    }
+
+    static String line(SkipArchive x, int level) {
+        return writtenLine(x, x.line(level));
+    }
+
+    /** On two archives, the text has its fault there, and nothing of it is carried out. */
+    static void fault(String text, int position) {
+        for (SkipArchive x : new SkipArchive[] {new SkipArchive(), sample()}) {
+            String before = state(x);
+            fails(IllegalArgumentException.class, () -> commands(x, text));
+            if (x.faultPosition() != position) {
+                fault("fault position " + x.faultPosition() + " of " + text + ", due is " + position);
+            }
+            same(before, state(x));
+        }
+    }
+
+    /** A text that tosses that many coins. */
+    static String tosses(int times) {
+        return "t;".repeat(times - 1) + "t";
+    }
+
+    static SkipArchive one(int key, int weight, int rungs) {
+        SkipArchive x = new SkipArchive();
+        x.fileTall(key, weight, rungs);
+        return x;
+    }
+
+    /** An archive without folders, its levels 1 to 4 forgotten. */
+    static SkipArchive allForgotten() {
+        SkipArchive x = new SkipArchive();
+        for (int level = 1; level < 5; level++) {
+            x.forget(level);
+        }
+        return x;
     }
 
     /**
@@ -118,6 +201,15 @@ final class Check {
         SkipArchive x = new SkipArchive();
         for (int i = 0; i < 24; i++) {
             x.fileTall(10 * i, i, 1 + i % 5);
+        }
+        return x;
+    }
+
+    /** As many folders as there can be, with the keys 0 to 23, all towers as high as they can be. */
+    static SkipArchive tallest() {
+        SkipArchive x = new SkipArchive();
+        for (int key = 0; key < 24; key++) {
+            x.fileTall(key, 1, 5);
         }
         return x;
     }

@@ -26,7 +26,7 @@ final class FaceTest {
     private FaceTest() {
     }
 
-    private static String read(String path) {
+    static String read(String path) {
         try {
             return Files.readString(Path.of(path));
         } catch (IOException e) {
