@@ -8,7 +8,7 @@ import java.util.Comparator;
 public final class AllTests {
     static final Class<?>[] CLASSES = {ChangesTest.class, SearchTest.class, TextTest.class, AccountsTest.class,
         TermsEdges.class, ChangesEdges.class, SearchEdges.class, TextEdges.class, AccountsEdges.class,
-        DocumentTest.class, ModelTest.class, FaceTest.class};
+        FaultTest.class, DocumentTest.class, ModelTest.class, ReadmeTest.class, FaceTest.class};
 
     private AllTests() {
     }
